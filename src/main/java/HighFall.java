@@ -228,6 +228,13 @@ public final class HighFall {
             return NONE;
         }
         bestTable.prepare(stair, law);
+        if (bestTable.valueOf(0, stair.steps, stair.allPieces()) < 0 || bestTable.firstKind == NONE) {
+            return REFUSED;
+        }
+        // falls alone cost the same with every price
+        if (law < 2 || stair.pieces[kind] == 0) {
+            return MOST_PRICE + 1;
+        }
         return bestTable.edgeOf(kind, stair.allPieces());
     }
 
@@ -987,8 +994,11 @@ public final class HighFall {
             if (token == Token.CLOSE) {
                 return takeClose();
             }
+            if (Token.isComparison(token) && compared[open]) {
+                return WRONG;
+            }
             if (Token.bindingOf(token) > 0 && token != Token.NOT) {
-                return takeBinary(token);
+                return takeOperator(token);
             }
             if (open > 0) {
                 return WRONG;
@@ -1016,13 +1026,6 @@ public final class HighFall {
             waits--;
             open--;
             return 0;
-        }
-
-        private int takeBinary(int token) {
-            if (Token.isComparison(token) && compared[open]) {
-                return WRONG;
-            }
-            return takeOperator(token);
         }
 
         private int takeOperator(int token) {
@@ -1346,70 +1349,64 @@ public final class HighFall {
             return value >= ENDLESS ? NEVER : value;
         }
 
+        /**
+         * The edge of a kind's price, to be asked behind valueOf from the whole span. It goes up in
+         * strides that grow where the first fall stays and shrink where it may not.
+         */
         int edgeOf(int kind, int code) {
-            long valueNow = valueOf(0, steps, code);
-            if (valueNow < 0 || firstKind == NONE) {
-                return REFUSED;
-            }
-            if (lawNow < 2 || piecesIn(code, kind) == 0) {
-                return MOST_PRICE + 1;
-            }
-            Arrays.fill(dearValue, UNKNOWN);
-            dearValue[price[kind]] = (int) valueNow;
             keptKind = firstKind;
             keptStep = firstStep;
-            int edge = searchEdge(kind, code);
+            Arrays.fill(dearValue, UNKNOWN);
+            int kept = price[kind];
+            dearValue[kept] = leastYet;
+            int stride = 1;
+            int edge = MOST_PRICE + 1;
+            // far more turns than prices: each either goes up or makes the stride less
+            for (int turn = 0; turn < 10 * MOST_PRICE && kept < MOST_PRICE && edge > MOST_PRICE; turn++) {
+                int reach = Math.min(MOST_PRICE, kept + stride);
+                int middle = (kept + reach) / 2;
+                seek(reach, kind, code);
+                if (mean && dearValue[reach] != MOVED && dearValue[reach] != dearValue[kept]) {
+                    seek(middle, kind, code);
+                }
+                if (reach == kept + 1 && dearValue[reach] == MOVED) {
+                    edge = reach;
+                } else if (reach == kept + 1 || staysBetween(kept, middle, reach)) {
+                    kept = reach;
+                    stride *= 2;
+                } else {
+                    stride = (reach - kept) / 2;
+                }
+            }
             // what was filled with other prices must not be used again
             lawNow = NONE;
             return edge;
         }
 
-        /** Goes up in strides that grow where the first fall stays and shrink where it may not. */
-        private int searchEdge(int kind, int code) {
-            int kept = price[kind];
-            int stride = 1;
-            // far more turns than prices: each either goes up or makes the stride less
-            for (int turn = 0; turn < 10 * MOST_PRICE && kept < MOST_PRICE; turn++) {
-                int reach = Math.min(MOST_PRICE, kept + stride);
-                if (staysUpTo(reach, kept, kind, code)) {
-                    kept = reach;
-                    stride *= 2;
-                } else if (reach == kept + 1) {
-                    return reach;
-                } else {
-                    stride = (reach - kept) / 2;
-                }
-            }
-            return MOST_PRICE + 1;
-        }
-
         /**
-         * Whether the first fall surely stays for all prices behind kept up to reach. What any
-         * first fall costs never sinks with the price: where BEST is the same at both ends, the
-         * first fall of both is best between them, and one that was dearer stays so. By the mean
-         * it bends down alone: where BEST lies straight, a first fall that is best at the ends
-         * and in the middle is best all along, and one that is best between is so at the ends.
+         * Whether the first fall surely stays for all prices from kept to reach. What any first
+         * fall costs never sinks with the price: where BEST is the same at both ends, the first
+         * fall of both is best between them, and one that was dearer stays so. By the mean it
+         * bends down alone: where BEST lies straight, a first fall that is best at the ends and in
+         * the middle is best all along, and one that is best between is so at the ends.
          */
-        private boolean staysUpTo(int reach, int kept, int kind, int code) {
-            int valueThere = valueWith(reach, kind, code);
-            if (valueThere == MOVED) {
+        private boolean staysBetween(int kept, int middle, int reach) {
+            if (dearValue[reach] == MOVED) {
                 return false;
             }
-            int valueHere = dearValue[kept];
-            if (reach == kept + 1 || valueThere == valueHere) {
+            if (dearValue[reach] == dearValue[kept]) {
                 return true;
             }
-            if (!mean) {
+            if (!mean || dearValue[middle] == MOVED) {
                 return false;
             }
-            int middle = (kept + reach) / 2;
-            int valueBetween = valueWith(middle, kind, code);
-            return valueBetween != MOVED && (long) (valueBetween - valueHere) * (reach - middle)
-                    == (long) (valueThere - valueBetween) * (middle - kept);
+            long lower = dearValue[middle] - dearValue[kept];
+            long upper = dearValue[reach] - dearValue[middle];
+            return lower * (reach - middle) == upper * (middle - kept);
         }
 
-        /** BEST with another price of the kind; MOVED if it lets fall otherwise first. */
-        private int valueWith(int dearer, int kind, int code) {
+        /** Finds BEST with another price of the kind; MOVED if it lets fall otherwise first. */
+        private void seek(int dearer, int kind, int code) {
             if (dearValue[dearer] == UNKNOWN) {
                 price[kind] = dearer;
                 fillAgain(code, kind);
@@ -1417,7 +1414,6 @@ public final class HighFall {
                 boolean stays = firstKind == keptKind && firstStep == keptStep;
                 dearValue[dearer] = stays ? value : MOVED;
             }
-            return dearValue[dearer];
         }
 
         private void forgetFirst() {
