@@ -13,9 +13,14 @@ public final class HandTest {
         // 2147483647 * 1103515245 + 12345 has the lowest 31 bits 1043980748, by 65536: 15929 = 21 * 758 + 11
         Due.due("the greatest seed", x.begin(Integer.MAX_VALUE), true);
         Due.due("T 11", x.now(5), 11);
+        // numbers 277282815 and 1062535168: the last and the first of a 65536, 4230 and 16213 of them
+        x.begin(47902);
+        Due.due("one less than the next 65536", x.now(5), 9);
+        x.begin(42627);
+        Due.due("just at a 65536", x.now(5), 1);
         for (int t = 0; t <= 20; t++) x.weight(t, 0);
         Due.due("no weights", x.begin(1), false);
-        Due.due("the trial ahead stays", x.now(5), 11);
+        Due.due("the trial ahead stays", x.now(5), 1);
         x.weight(13, 1);
         x.begin(77);
         Due.due("the only one", x.now(5), 13);

@@ -152,6 +152,7 @@ public final class TrialTest {
         Due.due("known before", x.tried(18, 0), 3);
         Due.due("known before", x.tried(19, 0), 0);
         Due.due("weights of the stuck", x.judge(5), 19);
+        Due.due("the stuck say no other number", x.judge(4), 0);
         Due.plan(x, "fall 0 1;");
         Due.due("200 falls were", x.tried(1, 1), 200);
         Due.due("stuck after them", x.tried(1, 0), 3);
