@@ -1,4 +1,6 @@
 import java.util.NoSuchElementException;
+import java.util.function.IntPredicate;
+import java.util.function.IntToLongFunction;
 
 /** What the tests share: answers that are due, plans told as a text, and the end with its exit code. */
 final class Due {
@@ -17,6 +19,34 @@ final class Due {
 
     static void due(String call, boolean got, boolean want) {
         due(call, got ? 1 : 0, want ? 1 : 0);
+    }
+
+    /** On both sides of each bound: the least and the most are taken, what lies beyond is not. */
+    static void taken(String call, int least, int most, IntPredicate takes) {
+        for (int number : new int[] {least, most}) due(call + " takes " + number, takes.test(number), true);
+        for (int number : beyond(least, most)) due(call + " takes " + number, takes.test(number), false);
+    }
+
+    /** The same of a call that answers one number to all that it refuses, and to nothing else. */
+    static void answered(String call, int least, int most, long refusal, IntToLongFunction answers) {
+        for (int number : new int[] {least, most}) {
+            due(call + " refuses " + number, answers.applyAsLong(number) == refusal, false);
+        }
+        for (int number : beyond(least, most)) due(call + " of " + number, answers.applyAsLong(number), refusal);
+    }
+
+    static int[] beyond(int least, int most) {
+        return new int[] {least - 1, most + 1, Integer.MIN_VALUE, Integer.MAX_VALUE};
+    }
+
+    /** A trial by hand on a stair of n steps with the strength t, four pieces of kind 0 tough by d. */
+    static HighFall handAt(int n, int t, int d) {
+        HighFall x = new HighFall();
+        x.stair(n);
+        x.kind(0, d, 4, 1);
+        for (int other = 0; other <= n; other++) x.weight(other, other == t ? 1 : 0);
+        x.begin(0);
+        return x;
     }
 
     /** Feeds the text, with blanks behind it up to the next twenty, and plans it. */
