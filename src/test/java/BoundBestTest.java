@@ -209,6 +209,70 @@ public final class BoundBestTest {
         }
     }
 
+    /** A price row: steps, f, c, then tough, pieces and price of each kind; 'moved' are the prices with another first fall. */
+    private static void edgesAlong(int law, int kind, int[] row, int[] weights, int[] moved) {
+        int next = 0;
+        for (int price = 0; price <= 99; price++) {
+            HighFall x = stairOf(row[0]);
+            x.cost(row[1], row[2]);
+            for (int t = 0; t < weights.length; t++) x.weight(t, weights[t]);
+            for (int k = 0; k < 3; k++) x.kind(k, row[3 + 3 * k], row[4 + 3 * k], k == kind ? price : row[5 + 3 * k]);
+            if (next < moved.length && moved[next] == price) next++;
+            Due.due("edge by " + law + " from price " + price, x.edge(kind, law), next < moved.length ? moved[next] : 100);
+        }
+    }
+
+    /** "the least greater one": also where a dearer price brings the first fall back. */
+    private static void edgesThatComeBack() {
+        int[] equal = {};
+        edgesAlong(2, 1, new int[] {5, 4, 0, 0, 2, 11, 0, 2, 8, 0, 0, 19}, equal, new int[] {4, 5, 11});
+        edgesAlong(2, 0, new int[] {5, 2, 1, 0, 2, 66, 0, 0, 14, 0, 0, 19}, equal, new int[] {4, 9, 11, 18});
+        edgesAlong(2, 2, new int[] {5, 3, 5, 0, 2, 98, 0, 2, 17, -1, 2, 89}, equal, new int[] {2, 3, 16, 30, 48, 53});
+        edgesAlong(3, 1, new int[] {6, 1, 3, 0, 2, 3, -2, 2, 5, 0, 2, 24}, new int[] {15, 0, 0, 31, 21, 1, 69}, new int[] {18, 23, 24});
+        edgesAlong(3, 2, new int[] {6, 1, 7, 2, 1, 51, 0, 1, 18, 1, 1, 96}, new int[] {2, 2, 3, 1, 2, 2, 1}, new int[] {4, 7});
+        edgesAlong(3, 2, new int[] {6, 4, 3, 0, 0, 9, 0, 2, 14, 1, 2, 73}, new int[] {20, 47, 31, 1, 43, 49, 2}, new int[] {2, 4, 6});
+        edgesAlong(3, 1, new int[] {4, 4, 1, -2, 1, 56, 0, 1, 18, -1, 1, 19}, new int[] {3, 2, 44, 72, 0}, new int[] {16, 40});
+        edgesAlong(3, 2, new int[] {6, 0, 1, -2, 0, 3, 0, 1, 13, 2, 2, 89}, new int[] {1, 2, 3, 1, 45, 48, 0},
+            new int[] {8, 75, 78, 81, 84, 89});
+    }
+
+    /** One of the changes that tables must heed; each has an answer of its own on both sides. */
+    private static void change(HighFall x, int which, boolean there) {
+        switch (which) {
+            case 0: x.stair(there ? 7 : 6); break;
+            case 1: x.kind(0, 0, there ? 3 : 2, there ? 9 : 1); break;
+            case 2: x.cost(there ? 5 : 1, there ? 2 : 0); break;
+            default: x.weight(2, there ? 50 : 1); break;
+        }
+    }
+
+    /** What best() answers is of the state as it is, whatever was asked before and in which order it was changed. */
+    private static void changesBetweenAsks() {
+        for (int first = 0; first < 4; first++) {
+            for (int second = 0; second < 4; second++) {
+                for (int third = 0; third < 4; third++) {
+                    for (int law = 0; law < 4; law++) {
+                        HighFall x = stairOf(6);
+                        HighFall y = stairOf(6);
+                        x.best(law);
+                        for (int which : new int[] {first, second, third}) {
+                            change(x, which, true);
+                            change(y, which, true);
+                        }
+                        Due.due("best behind " + first + second + third, x.best(law), y.best(law));
+                        change(x, second, false);
+                        change(x, first, false);
+                        HighFall z = stairOf(6);
+                        for (int which : new int[] {first, second, third}) change(z, which, true);
+                        change(z, second, false);
+                        change(z, first, false);
+                        Due.due("best behind going back", x.best(law), z.best(law));
+                    }
+                }
+            }
+        }
+    }
+
     public static void main(String[] args) {
         refused();
         knownSpans();
@@ -218,6 +282,8 @@ public final class BoundBestTest {
         greatest();
         edges();
         edgeOfStep();
+        edgesThatComeBack();
+        changesBetweenAsks();
         Due.end();
     }
 }

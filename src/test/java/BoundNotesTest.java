@@ -165,6 +165,32 @@ public final class BoundNotesTest {
         Due.due("nor of a tester", y.doubted(2), 0);
     }
 
+    /** "LEAST DOUBT: the least of a T": each T alone, and one before others that are doubted more, yet less than T 0. */
+    private static void leastOfEach() {
+        for (int n : new int[] {1, 2, 9, 40}) {
+            for (int t = 0; t <= n; t++) {
+                HighFall x = new HighFall();
+                x.stair(n);
+                if (t > 0) x.note(0, 0, t, false);
+                if (t < n) x.note(1, 0, t + 1, true);
+                Due.due("T " + t + " of " + n + " alone", x.least(1), t);
+                Due.due("not doubted", x.least(0), 0);
+                Due.due("the others are", x.doubt(t == 0 ? n : 0), 1);
+            }
+        }
+        HighFall x = new HighFall();
+        for (int i = 0; i < 3; i++) x.note(i, 0, 5, false);
+        x.note(3, 0, 8, true);
+        x.note(3, 0, 12, true);
+        // T 0 .. 4: 3, 5 .. 7: 0, 8 .. 11: 1, 12 and more: 2
+        Due.due("the first of the least", x.least(1), 5);
+        Due.due("which is", x.least(0), 0);
+        x.note(4, 0, 20, false);
+        Due.due("all but the last doubted once more", x.least(1), 5);
+        Due.due("which is once", x.least(0), 1);
+        Due.due("by tester 4", x.doubted(4), 1);
+    }
+
     /** "differ least; of several the least STEP"; "NONE: no such KIND, nothing is FITTING". */
     private static void parts() {
         HighFall x = new HighFall();
@@ -205,6 +231,7 @@ public final class BoundNotesTest {
         fittingByTough();
         wrongAsks();
         leastDoubt();
+        leastOfEach();
         parts();
         Due.end();
     }

@@ -210,6 +210,18 @@ public final class BoundPlanTest {
             Due.fault("stop " + name.substring(0, name.length() - 1) + ";", 1, 5);
             Due.fault("stop " + name.toUpperCase() + ";", 1, 5);
         }
+        for (String word : List.of("if", "fall", "stop", "or", "and", "not", "low", "high", "span", "falls", "last", "broke",
+                "one", "two", "three")) {
+            String before = word.equals("or") || word.equals("and") ? "stop 1 " : NAMES.contains(word) || word.equals("not") ? "stop " : "";
+            for (String letter : new String[] {"a", "x", "z"}) {
+                for (int i = 0; i <= word.length(); i++) {
+                    Due.fault(before + word.substring(0, i) + letter + word.substring(i) + " 1;", 1, before.length());
+                    if (i < word.length() && word.charAt(i) != letter.charAt(0)) {
+                        Due.fault(before + word.substring(0, i) + letter + word.substring(i + 1) + " 1;", 1, before.length());
+                    }
+                }
+            }
+        }
     }
 
     /** "(the length, if more must come)": the length is that of the bytes told, blanks and all. */
@@ -229,6 +241,46 @@ public final class BoundPlanTest {
                 Due.due("cut in a word at " + size, x.plan(size), -1);
                 Due.due("the word is another one", x.fault(1), part.lastIndexOf(' ') + 1);
             }
+        }
+    }
+
+    /** What lies behind the told length belongs to no TOKEN. */
+    private static void behindTheLength() {
+        String[][] cuts = {{"stop 1", "2;"}, {"stop 1<", "=2;"}, {"stop 1<", ">2;"}, {"stop 1>", "=2;"}, {"stop low", "s;"},
+            {"stop 1 an", "d 2;"}, {"fall 0", "0 1;"}, {"stop 1 ", ";"}, {"stop", "p"}};
+        for (String[] cut : cuts) {
+            int size = cut[0].length();
+            int place = cut[0].endsWith("an") ? 7 : size;
+            for (int ahead : new int[] {0, 13, 380 - 20, 400 - size - cut[1].length(), 400 - size}) {
+                HighFall x = new HighFall();
+                Due.feed(x, (" ".repeat(ahead) + cut[0] + cut[1] + " ".repeat(20)).substring(0, Math.min(400, ahead + size + cut[1].length())));
+                Due.due("<" + cut[0] + "> behind " + ahead, x.plan(ahead + size), -1);
+                Due.due("<" + cut[0] + ">: more must come", x.fault(0), 1);
+                Due.due("<" + cut[0] + ">: its place", x.fault(1), ahead + place);
+            }
+        }
+        HighFall x = new HighFall();
+        Due.feed(x, "stop 7;8");
+        Due.due("a sign more", x.plan(7), 1);
+        Due.due("is not heeded", x.tried(0, 4), 7);
+    }
+
+    /** A text with a FAULT leaves nothing behind for the next one. */
+    private static void behindFaults() {
+        String[] wrong = {"stop ((((((((1;", "stop (1;", "stop 1+", "stop not", "stop not not not", "if 1<2<3", "if 1", "fall",
+            "fall 0", "if (1<", "stop 1<(2 or", "stop " + "not ".repeat(65), "stop 1;".repeat(13), "stop 1000", "if low stop 1"};
+        for (String text : wrong) {
+            HighFall x = new HighFall();
+            Due.due("<" + text + ">", Due.plan(x, text), -1);
+            Due.due("a right text behind it", Due.plan(x, "stop ((((((((1<2))))))));"), 1);
+            Due.due("<" + text + ">, then one that says 1", x.tried(0, 4), 1);
+            Due.due("its knots", x.count(2), 3);
+            Due.plan(x, text);
+            Due.due("twelve lines behind it", Due.plan(x, "if 0 stop 1;".repeat(11) + "if 1=1 stop 12;"), 12);
+            Due.due("the twelfth says 12", x.tried(0, 4), 12);
+            Due.plan(x, text);
+            Due.due("a fall behind it", Due.plan(x, "fall 0 low+1;"), 1);
+            Due.due("goes up", x.tried(5, 1), 6);
         }
     }
 
@@ -335,6 +387,8 @@ public final class BoundPlanTest {
         doubleSigns();
         rows();
         tooShort();
+        behindTheLength();
+        behindFaults();
         numbers();
         lines();
         open();

@@ -133,6 +133,17 @@ public final class BoundTrialTest {
         says("0 and 0 or 1", 1);
         says("1 or 0 and 1/1", 1);
         says("(1<2)+(3<4)", 2);
+        says("(1 or 0)+1", 2);
+        says("3*(1 or 0)", 3);
+        says("(1 and 2)+(0 or 0)+1", 2);
+        says("(not 0)+(not 0)", 2);
+        says("(1<2 or 3)+(1-1-1)", 0);
+        // as many as wait at most: 63 words, and 8 '(' with them
+        for (int words = 0; words <= 63; words++) {
+            String text = "not ".repeat(words) + "low";
+            Due.due(words + " times not", planned("stop " + text + ";").tried(0, 4), words % 2);
+            Due.due(words + " times not in '('", planned("stop ((((((((" + text + "))))))));").tried(0, 4), words % 2);
+        }
     }
 
     /** "low, high; span; falls; last: the STEP of the latest (0 without); broke: 1 if that broke; one, two, three". */
@@ -183,6 +194,19 @@ public final class BoundTrialTest {
         Due.due("the 12th", x.tried(0, 4), 12);
         x = planned("if 1 stop 1/0;stop 2;");
         Due.due("an error of its number is not left out", x.tried(0, 0), 3);
+        x = planned("if 0 stop 1;".repeat(12));
+        Due.due("no thirteenth behind twelve", x.tried(0, 0), 3);
+        // lines of longer plans ahead don't stand behind those of a shorter one
+        Due.plan(x, "stop 1;".repeat(12));
+        Due.plan(x, "fall 0 1;stop 2;".repeat(6));
+        Due.plan(x, "if 0 stop 3;");
+        Due.due("one line alone", x.tried(0, 0), 3);
+        Due.plan(x, "");
+        Due.due("no line at all", x.tried(0, 0), 3);
+        // what an error leaves of an expression is not heeded by the next one
+        x = planned("if 1+(2+3/0) stop 1;".repeat(6) + "stop 2;");
+        for (int i = 0; i < 6; i++) Due.due("errors again and again", x.judge(4), 20);
+        Due.due("the last line says 2", x.tried(2, 0), 1);
     }
 
     /** "It is STUCK without such a LINE, with an ERROR of that E". */
