@@ -228,12 +228,24 @@ public final class BoundBestTest {
         edgesAlong(2, 1, new int[] {5, 4, 0, 0, 2, 11, 0, 2, 8, 0, 0, 19}, equal, new int[] {4, 5, 11});
         edgesAlong(2, 0, new int[] {5, 2, 1, 0, 2, 66, 0, 0, 14, 0, 0, 19}, equal, new int[] {4, 9, 11, 18});
         edgesAlong(2, 2, new int[] {5, 3, 5, 0, 2, 98, 0, 2, 17, -1, 2, 89}, equal, new int[] {2, 3, 16, 30, 48, 53});
+        edgesAlong(2, 0, new int[] {6, 12, 3, 2, 2, 53, -2, 2, 42, -2, 1, 72}, equal, new int[] {30, 31, 39, 40, 57});
+        edgesAlong(2, 2, new int[] {6, 2, 9, -2, 0, 88, -2, 2, 57, 0, 2, 24}, equal, new int[] {67, 68, 78});
+        edgesAlong(2, 1, new int[] {4, 31, 9, 0, 1, 96, 1, 2, 19, 0, 0, 1}, equal, new int[] {53, 86, 87});
         edgesAlong(3, 1, new int[] {6, 1, 3, 0, 2, 3, -2, 2, 5, 0, 2, 24}, new int[] {15, 0, 0, 31, 21, 1, 69}, new int[] {18, 23, 24});
         edgesAlong(3, 2, new int[] {6, 1, 7, 2, 1, 51, 0, 1, 18, 1, 1, 96}, new int[] {2, 2, 3, 1, 2, 2, 1}, new int[] {4, 7});
         edgesAlong(3, 2, new int[] {6, 4, 3, 0, 0, 9, 0, 2, 14, 1, 2, 73}, new int[] {20, 47, 31, 1, 43, 49, 2}, new int[] {2, 4, 6});
         edgesAlong(3, 1, new int[] {4, 4, 1, -2, 1, 56, 0, 1, 18, -1, 1, 19}, new int[] {3, 2, 44, 72, 0}, new int[] {16, 40});
         edgesAlong(3, 2, new int[] {6, 0, 1, -2, 0, 3, 0, 1, 13, 2, 2, 89}, new int[] {1, 2, 3, 1, 45, 48, 0},
             new int[] {8, 75, 78, 81, 84, 89});
+        // back after one price or two, where BEST bends: a stride that looks at its ends and middle alone would miss it
+        edgesAlong(3, 0, new int[] {11, 20, 1, 0, 2, 0, 0, 0, 41, -1, 1, 9},
+            new int[] {1, 3, 3, 73, 1, 69, 3, 0, 77, 4, 94, 67}, new int[] {7, 8, 9, 10});
+        edgesAlong(3, 0, new int[] {10, 2, 3, -2, 1, 1, 0, 2, 2, 0, 1, 52},
+            new int[] {0, 2, 33, 67, 44, 77, 47, 1, 6, 0, 0}, new int[] {19, 21, 35});
+        edgesAlong(3, 1, new int[] {11, 4, 0, -2, 2, 70, 0, 2, 1, -2, 0, 41},
+            new int[] {2, 1, 50, 77, 95, 4, 0, 2, 64, 40, 2, 69}, new int[] {5, 6, 69});
+        edgesAlong(3, 1, new int[] {8, 3, 6, 0, 1, 18, 0, 2, 4, -2, 1, 18},
+            new int[] {21, 3, 4, 2, 44, 2, 81, 67, 2}, new int[] {8, 9, 88});
     }
 
     /** One of the changes that tables must heed; each has an answer of its own on both sides. */

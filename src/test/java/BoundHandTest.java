@@ -1,3 +1,5 @@
+import java.math.BigInteger;
+
 /** ==== 6 and promises 27 to 30: how a T is drawn, falls and their taking back, and what is refused. */
 public final class BoundHandTest {
     /** "false: the seed is below 0, all WEIGHTS are 0". */
@@ -18,6 +20,24 @@ public final class BoundHandTest {
         Due.due("the trial ahead stays", x.now(5), 20);
     }
 
+    private static HighFall weighted(int[] weights) {
+        HighFall x = new HighFall();
+        x.stair(weights.length - 1);
+        for (int t = 0; t < weights.length; t++) x.weight(t, weights[t]);
+        return x;
+    }
+
+    private static int strengthOf(int seed, int[] weights) {
+        BigInteger number = BigInteger.valueOf(seed).multiply(BigInteger.valueOf(1103515245))
+            .add(BigInteger.valueOf(12345)).mod(BigInteger.TWO.pow(31)).shiftRight(16);
+        int all = 0;
+        for (int weight : weights) all += weight;
+        int rest = number.intValue() % all;
+        int t = 0;
+        while (rest >= weights[t]) rest -= weights[t++];
+        return t;
+    }
+
     /** "a number (the seed times 1103515245 and 12345, without what is above 31 bits) by 65536, modulo all WEIGHTS". */
     private static void drawn() {
         int[] seeds = new int[600];
@@ -25,23 +45,13 @@ public final class BoundHandTest {
         for (int i = 300; i < 600; i++) seeds[i] = Integer.MAX_VALUE - (i - 300) * 7158279;
         int[][] weights = {{1, 1, 1, 1, 1, 1}, {0, 0, 3, 0, 0, 0}, {0, 2, 0, 1, 4, 0}, {99, 99, 99, 99, 99, 99}, {1, 0, 0, 0, 0, 1}};
         for (int[] row : weights) {
-            HighFall x = new HighFall();
-            x.stair(5);
-            int all = 0;
-            for (int t = 0; t <= 5; t++) {
-                x.weight(t, row[t]);
-                all += row[t];
-            }
             boolean[] met = new boolean[6];
-            for (int seed : seeds) {
-                java.math.BigInteger number = java.math.BigInteger.valueOf(seed)
-                    .multiply(java.math.BigInteger.valueOf(1103515245)).add(java.math.BigInteger.valueOf(12345))
-                    .mod(java.math.BigInteger.TWO.pow(31)).shiftRight(16);
-                int rest = number.intValue() % all;
-                int t = 0;
-                while (rest >= row[t]) rest -= row[t++];
-                x.begin(seed);
-                Due.due("T of seed " + seed, x.now(5), t);
+            HighFall x = null;
+            for (int i = 0; i < seeds.length; i++) {
+                if (i % 200 == 0) x = weighted(row);
+                int t = strengthOf(seeds[i], row);
+                x.begin(seeds[i]);
+                Due.due("T of seed " + seeds[i], x.now(5), t);
                 met[t] = true;
             }
             for (int t = 0; t <= 5; t++) Due.due("T " + t + " was drawn", met[t], row[t] > 0);
